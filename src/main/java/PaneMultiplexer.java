@@ -573,28 +573,28 @@ public final class PaneMultiplexer {
     }
 
     private void runFinal(int id, int b) {
-        int n = orOne(paramOne[id]);
+        int n1 = orOne(paramOne[id]);
+        int n2 = orOne(paramTwo[id]);
         int row = cursorRow[id];
         int col = cursorCol[id];
         int w = screenWidth[id];
         int h = screenHeight[id];
         switch (b) {
             case 'A':
-                cursorRow[id] = larger(0, row - n);
+                cursorRow[id] = larger(0, row - n1);
                 break;
             case 'B':
-                cursorRow[id] = smaller(h - 1, row + n);
+                cursorRow[id] = smaller(h - 1, row + n1);
                 break;
             case 'C':
-                cursorCol[id] = smaller(w - 1, col + n);
+                cursorCol[id] = smaller(w - 1, col + n1);
                 break;
             case 'D':
-                cursorCol[id] = larger(0, col - n);
+                cursorCol[id] = larger(0, col - n1);
                 break;
             case 'H':
-                int column = orOne(paramTwo[id]);
-                cursorRow[id] = smaller(h - 1, n - 1);
-                cursorCol[id] = smaller(w - 1, column - 1);
+                cursorRow[id] = smaller(h - 1, n1 - 1);
+                cursorCol[id] = smaller(w - 1, n2 - 1);
                 break;
             case 'J':
                 blankCells(id, 0, 0, h, w);
@@ -603,10 +603,10 @@ public final class PaneMultiplexer {
                 blankCells(id, row, col, row + 1, w);
                 break;
             case 'S':
-                scroll(id, n);
+                scroll(id, n1);
                 break;
             case 'r':
-                setRegion(id, n);
+                setRegion(id, n1);
                 break;
             default:
                 break;

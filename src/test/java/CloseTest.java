@@ -12,6 +12,7 @@ public final class CloseTest {
         panesAreFitted();
         idsStopBeingLive();
         downToOne();
+        splitsCanBeMadeAgain();
         Expect.finish();
     }
 
@@ -124,6 +125,22 @@ public final class CloseTest {
         Expect.same("state", Expect.cursor(x, 1), "-1,-1");
         Expect.same("char", x.paneChar(1, 0, 0), 0);
         Expect.same("owners", Expect.owners(x), ("/" + "0".repeat(9)).repeat(5).substring(1));
+    }
+
+    private static void splitsCanBeMadeAgain() {
+        PaneMultiplexer x = new PaneMultiplexer(24, 12);
+        for (int i = 0; i < 20; i++) {
+            Expect.same("split again", x.split(i % 2 == 0 ? LR : TB), 1);
+            Expect.same("close again", x.close(), true);
+        }
+        for (int i = 0; i < 7; i++) {
+            Expect.same("split " + i, x.split(i % 2 == 0 ? LR : TB), i + 1);
+        }
+        Expect.same("host", Expect.host(x), "...........|............/".repeat(5)
+            + "...........|------------/"
+            + "...........|.....|....../".repeat(2) + "...........|.....|------/"
+            + "...........|.....|..|.../" + "...........|.....|..|---/"
+            + "...........|.....|..|.|.");
     }
 
     private static void downToOne() {

@@ -16,6 +16,7 @@ public final class FeedTest {
         positioning();
         erasing();
         scrolling();
+        scrollingTheGreatestScreen();
         regions();
         regionsInOneRow();
         unfocusedPanes();
@@ -263,6 +264,16 @@ public final class FeedTest {
         Expect.same("scrolled in region", Expect.screen(x, 0), "0......./3......./......../......../4.......");
         Expect.type(x, 0, "~[99S");
         Expect.same("scrolled all out", Expect.screen(x, 0), "0......./......../......../......../4.......");
+    }
+
+    private static void scrollingTheGreatestScreen() {
+        PaneMultiplexer x = new PaneMultiplexer(24, 12);
+        Expect.type(x, 0, "x".repeat(24 * 12));
+        Expect.same("by the last char", Expect.screen(x, 0),
+            ("x".repeat(24) + "/").repeat(11) + ".".repeat(24));
+        Expect.type(x, 0, "~[2;11r~[3S");
+        Expect.same("in region", Expect.screen(x, 0), ("x".repeat(24) + "/").repeat(8)
+            + (".".repeat(24) + "/").repeat(3) + ".".repeat(24));
     }
 
     private static void regions() {

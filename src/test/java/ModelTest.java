@@ -4,7 +4,8 @@ public final class ModelTest {
     private static final int CALLS = 400;
     private static final int[] ODD = {Integer.MIN_VALUE, -1, 0, 3, 8, 99, 100, Integer.MAX_VALUE};
     private static final String[] TEXTS = {"~[", "~[%;%H", "~[%;%r", "~[%A", "~[%B", "~[%C", "~[%D",
-        "~[J", "~[K", "~[%S", "~[%;%;%", "\n", "\r\n", "\b", "~", "some words", "~[r", "~[%;%?"};
+        "~[J", "~[K", "~[%S", "~[%;%;%", "\n", "\r\n", "\b", "~", "some words", "~[r", "~[%;%?",
+        "~[%;1%H", "~[1%;2%H", "twenty-four columns wide", "~[1%C", "~[2;1%r"};
 
     private static long seed = 20261115;
 

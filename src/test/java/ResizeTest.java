@@ -8,7 +8,9 @@ public final class ResizeTest {
         tooNarrow();
         tooLow();
         leastSizesOfMixedTrees();
+        widestRowCounts();
         cellsAreKept();
+        greatestScreenIsCutAndBlanked();
         cursorIsClamped();
         regionIsKeptOrReset();
         keptRegionOfOneRow();
@@ -86,6 +88,34 @@ public final class ResizeTest {
         x.focus(6);
         x.close();
         Expect.same("after a close 4 rows are enough", x.resizeHost(8, 4), true);
+    }
+
+    private static void widestRowCounts() {
+        for (int wide = 0; wide < 2; wide++) {
+            PaneMultiplexer x = new PaneMultiplexer(24, 4);
+            x.split(TB);
+            int[] focus = {wide, wide, 2, 2, 3};
+            for (int i = 0; i < 5; i++) {
+                x.focus(focus[i]);
+                Expect.same("split " + i, x.split(LR), i + 2);
+            }
+            Expect.same("10 columns for 6 panes in a row", x.resizeHost(10, 4), false);
+            Expect.same("11 columns", x.resizeHost(11, 4), true);
+        }
+    }
+
+    private static void greatestScreenIsCutAndBlanked() {
+        PaneMultiplexer x = new PaneMultiplexer(24, 12);
+        Expect.type(x, 0, "x".repeat(24 * 12 - 1));
+        Expect.same("lower", x.resizeHost(24, 4), true);
+        Expect.same("as high as before", x.resizeHost(24, 12), true);
+        Expect.same("rows are blank", Expect.screen(x, 0),
+            ("x".repeat(24) + "/").repeat(4) + (".".repeat(24) + "/").repeat(7) + ".".repeat(24));
+        Expect.same("narrower", x.resizeHost(8, 12), true);
+        Expect.same("as wide as before", x.resizeHost(24, 12), true);
+        Expect.same("columns are blank", Expect.screen(x, 0),
+            ("x".repeat(8) + ".".repeat(16) + "/").repeat(4)
+                + (".".repeat(24) + "/").repeat(7) + ".".repeat(24));
     }
 
     private static void cellsAreKept() {

@@ -528,8 +528,9 @@ public final class PaneMultiplexer {
     }
 
     private void scroll(int id, int times) {
-        int start = cellIndex(id, regionTop[id], 0);
-        int last = cellIndex(id, regionBottom[id], 0);
+        int screen = id * PANE_CELLS;
+        int start = screen + regionTop[id] * MAX_WIDTH;
+        int last = screen + regionBottom[id] * MAX_WIDTH;
         for (int n = 0; n < times; n++) {
             for (int i = start; i < last; i++) {
                 cells[i] = cells[i + MAX_WIDTH];

@@ -2,8 +2,14 @@
 final class Expect {
     private static int wrong = 0;
     private static int asked = 0;
+    private static String sentence = "";
 
     private Expect() {
+    }
+
+    /** Names the sentence of the document that the answers asked from here on belong to. */
+    static void sentence(String text) {
+        sentence = "[" + text + "] ";
     }
 
     static void same(String what, long got, long want) {
@@ -29,7 +35,7 @@ final class Expect {
 
     private static void report(String what, String got, String want) {
         wrong++;
-        System.out.println(what + " answered " + got + ", due is " + want);
+        System.out.println(sentence + what + " answered " + got + ", due is " + want);
     }
 
     static int wrongAnswers() {

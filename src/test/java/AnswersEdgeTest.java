@@ -1,5 +1,3 @@
-import java.util.function.Consumer;
-
 /** The boundary cases of promises 9 to 15, a method for each sentence. */
 public final class AnswersEdgeTest {
     private static final int LR = PaneMultiplexer.LEFT_RIGHT;
@@ -37,6 +35,10 @@ public final class AnswersEdgeTest {
         x.split(LR);
         x.focus(1);
         x.close();
+        x.focus(2);
+        x.setShare(LR, 30);
+        x.focus(0);
+        x.setShare(LR, 55);
         x.focus(2);
         Expect.type(x, 0, "abcdefghijklmnopqrs~[2;4r~[5;1Htuv~[3;4H~[98;99;");
         Expect.type(x, 2, "01~");
@@ -104,13 +106,15 @@ public final class AnswersEdgeTest {
     private static void stateParts() {
         Expect.sentence("Promise 11: ST_ROW, ST_COL the cursor row and column; ST_TOP, ST_BOTTOM the"
             + " scroll region; ST_MODE the mode; ST_P1, ST_P2 the parameters; ST_INDEX k");
-        PaneMultiplexer x = three();
-        int[] due = {2, 3, 1, 3, 2, 98, 99, 2};
+        PaneMultiplexer x = new PaneMultiplexer(24, 12);
+        Expect.type(x, 0, "~[6;9r~[4;8H~[98;99");
+        int[] due = {3, 7, 5, 8, 2, 98, 99, 1};
         for (int part = 0; part < 8; part++) {
             Expect.same("paneState(0, " + part + ")", x.paneState(0, part), due[part]);
         }
-        Expect.same("mode of 2", x.paneState(2, 4), 1);
-        Expect.same("mode of 3", x.paneState(3, 4), 0);
+        PaneMultiplexer y = three();
+        Expect.same("mode of 2", y.paneState(2, 4), 1);
+        Expect.same("mode of 3", y.paneState(3, 4), 0);
     }
 
     private static void stateRefusals() {
@@ -283,36 +287,41 @@ public final class AnswersEdgeTest {
         }
     }
 
-    private static void quiet(String sentence, Consumer<PaneMultiplexer> call) {
-        Expect.sentence(sentence);
-        Twins.unchanged("asking", AnswersEdgeTest::three, call);
-    }
-
     private static void nothingChanges() {
-        int[] some = {Integer.MIN_VALUE, -2, -1, 0, 1, 2, 3, 4, 5, 7, 8, 9, 24, Integer.MAX_VALUE};
-        quiet("Promise 9: Neither changes anything.", x -> x.focused());
-        quiet("Promise 9: Neither changes anything.", x -> x.paneCount());
-        quiet("Promise 10: It changes nothing.", x -> each(some, (a, b) -> x.paneRect(a, b)));
-        quiet("Promise 11: It changes nothing.", x -> each(some, (a, b) -> x.paneState(a, b)));
-        quiet("Promise 12: It changes nothing.", x -> each(some, (a, b) -> {
+        Expect.sentence("Promise 9: Neither changes anything. (focused)");
+        asking(Twins.Question.FOCUSED, (x, a, b) -> x.focused());
+        Expect.sentence("Promise 9: Neither changes anything. (paneCount)");
+        asking(Twins.Question.COUNT, (x, a, b) -> x.paneCount());
+        Expect.sentence("Promise 10: It changes nothing.");
+        asking(Twins.Question.RECT, (x, a, b) -> x.paneRect(a, b));
+        Expect.sentence("Promise 11: It changes nothing.");
+        asking(Twins.Question.STATE, (x, a, b) -> x.paneState(a, b));
+        Expect.sentence("Promise 12: It changes nothing.");
+        asking(Twins.Question.PANE_CHAR, (x, a, b) -> {
             x.paneChar(0, a, b);
             x.paneChar(2, a, b);
             x.paneChar(a, b, 0);
-        }));
-        quiet("Promise 13: It changes nothing.", x -> each(some, (a, b) -> x.hostOwner(a, b)));
-        quiet("Promise 14: and changes nothing.", x -> each(some, (a, b) -> x.hostChar(a, b)));
-        quiet("Promise 15: It changes nothing.", x -> each(some, (a, b) -> x.hostSize(a)));
+        });
+        Expect.sentence("Promise 13: It changes nothing.");
+        asking(Twins.Question.OWNER, (x, a, b) -> x.hostOwner(a, b));
+        Expect.sentence("Promise 14: and changes nothing.");
+        asking(Twins.Question.HOST_CHAR, (x, a, b) -> x.hostChar(a, b));
+        Expect.sentence("Promise 15: It changes nothing.");
+        asking(Twins.Question.SIZE, (x, a, b) -> x.hostSize(a));
     }
 
-    private interface Question {
-        void ask(int a, int b);
+    private interface Asking {
+        void ask(PaneMultiplexer x, int a, int b);
     }
 
-    private static void each(int[] some, Question question) {
-        for (int a : some) {
-            for (int b : some) {
-                question.ask(a, b);
+    private static void asking(Twins.Question question, Asking asking) {
+        int[] some = {Integer.MIN_VALUE, -2, -1, 0, 1, 2, 3, 4, 5, 6, 7, 8, 9, 24, Integer.MAX_VALUE};
+        Twins.unchangedByAsking(question, AnswersEdgeTest::three, x -> {
+            for (int a : some) {
+                for (int b : some) {
+                    asking.ask(x, a, b);
+                }
             }
-        }
+        });
     }
 }

@@ -29,6 +29,10 @@ public final class FocusEdgeTest {
         x.close();
         x.focus(3);
         Expect.same("id 0 again", x.split(LR), 0);
+        x.setShare(LR, 20);
+        x.focus(2);
+        x.setShare(LR, 80);
+        x.focus(0);
         Expect.type(x, 0, "~[2;3");
         Expect.type(x, 2, "two~[1;2r~");
         Expect.type(x, 3, "three");
@@ -62,8 +66,8 @@ public final class FocusEdgeTest {
         Expect.same("the only pane", y.focus(0), true);
         Expect.same("stays focused", y.focused(), 0);
         PaneMultiplexer full = eight();
-        Expect.same("the greatest id", full.focus(7) && full.focused() == 7, true);
         Expect.same("the least id", full.focus(0) && full.focused() == 0, true);
+        Expect.same("the greatest id", full.focus(7) && full.focused() == 7, true);
     }
 
     private static PaneMultiplexer eight() {
@@ -104,6 +108,13 @@ public final class FocusEdgeTest {
         Expect.same("focused", x.focused(), 0);
         Expect.same("after 0", x.focusNext(), 2);
         Expect.same("focused", x.focused(), 2);
+        PaneMultiplexer y = new PaneMultiplexer(8, 4);
+        y.split(LR);
+        y.focus(0);
+        y.split(TB);
+        Expect.same("after 2, on the left", y.focusNext(), 1);
+        y.focus(0);
+        Expect.same("after 0, above it", y.focusNext(), 2);
     }
 
     private static void lastToFirst() {

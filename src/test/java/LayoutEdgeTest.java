@@ -29,10 +29,13 @@ public final class LayoutEdgeTest {
         x.split(LR);
         x.focus(0);
         x.close();
-        Expect.same("a leaf that became root", Expect.rect(x, 1), "0,0,24,12");
+        Expect.same("a right leaf that became root", Expect.rect(x, 1), "0,0,24,12");
         x.split(TB);
         Expect.same("a split as root, its first", Expect.rect(x, 1), "0,0,24,5");
         Expect.same("a split as root, its second", Expect.rect(x, 0), "0,6,24,6");
+        x.focus(1);
+        x.close();
+        Expect.same("a lower leaf that became root", Expect.rect(x, 0), "0,0,24,12");
     }
 
     private static void divisionRoundsDown() {
@@ -207,23 +210,29 @@ public final class LayoutEdgeTest {
     private static void everyPaneHasACell() {
         Expect.sentence("Layout: each live pane's rectangle has width and height at least 1 and"
             + " lies inside the host");
-        PaneMultiplexer x = crowded();
-        for (int percent : new int[] {1, 99}) {
-            for (int i = 0; i < 8; i++) {
-                x.focusNext();
-                x.setShare(LR, percent);
-                x.setShare(TB, percent);
-                for (int id = 0; id < 8; id++) {
-                    int right = x.paneRect(id, PaneMultiplexer.RECT_X)
-                        + x.paneRect(id, PaneMultiplexer.RECT_W);
-                    int under = x.paneRect(id, PaneMultiplexer.RECT_Y)
-                        + x.paneRect(id, PaneMultiplexer.RECT_H);
-                    Expect.same("width", x.paneRect(id, PaneMultiplexer.RECT_W) >= 1, true);
-                    Expect.same("height", x.paneRect(id, PaneMultiplexer.RECT_H) >= 1, true);
-                    Expect.same("inside", x.paneRect(id, PaneMultiplexer.RECT_X) >= 0
-                        && x.paneRect(id, PaneMultiplexer.RECT_Y) >= 0 && right <= 8 && under <= 4, true);
+        for (PaneMultiplexer x : new PaneMultiplexer[] {fiveInNine(), crowded()}) {
+            for (int percent : new int[] {1, 99}) {
+                for (int i = 0; i < 8; i++) {
+                    x.focusNext();
+                    x.setShare(LR, percent);
+                    x.setShare(TB, percent);
+                    everyRectangle(x);
                 }
             }
+        }
+    }
+
+    private static void everyRectangle(PaneMultiplexer x) {
+        for (int id = 0; id < x.paneCount(); id++) {
+            int left = x.paneRect(id, PaneMultiplexer.RECT_X);
+            int top = x.paneRect(id, PaneMultiplexer.RECT_Y);
+            int w = x.paneRect(id, PaneMultiplexer.RECT_W);
+            int h = x.paneRect(id, PaneMultiplexer.RECT_H);
+            Expect.same("width " + w, w >= 1, true);
+            Expect.same("height " + h, h >= 1, true);
+            Expect.same("first cell", left >= 0 && top >= 0, true);
+            Expect.same("last column", left + w <= x.hostSize(PaneMultiplexer.RECT_W), true);
+            Expect.same("last row", top + h <= x.hostSize(PaneMultiplexer.RECT_H), true);
         }
     }
 

@@ -159,7 +159,7 @@ public final class ParserEdgeTest {
 
     private static void otherGroundBytes() {
         Expect.sentence("Parser, GROUND: Any other byte: no effect.");
-        PaneMultiplexer x = typed(8, 4, "abc~[2;3r~[2;2H");
+        PaneMultiplexer x = typed(8, 4, "abcdefgh".repeat(3) + "abc~[2;3r~[2;2H");
         String before = Expect.all(x);
         for (int b = 0; b < 256; b++) {
             if ((b < 32 || b > 126) && b != 8 && b != 10 && b != 13 && b != 27) {
@@ -181,7 +181,7 @@ public final class ParserEdgeTest {
         Expect.sentence("Parser, ESCAPE: Any other byte: mode = GROUND, no other effect.");
         for (int b = 0; b < 256; b++) {
             if (b != 91) {
-                PaneMultiplexer x = typed(8, 4, "abc~[2;3r~[2;2;H~");
+                PaneMultiplexer x = typed(8, 4, "abcdefgh".repeat(3) + "abc~[2;3r~[2;2;H~");
                 String screen = Expect.screen(x, 0);
                 x.feed(0, b);
                 Expect.same("parser after ESC " + b, Expect.parser(x, 0), "0,2,2,2");
@@ -250,7 +250,7 @@ public final class ParserEdgeTest {
         Expect.sentence("Parser, CSI: Any other byte: mode = GROUND, no other effect.");
         for (int b = 0; b < 256; b++) {
             if (b < 48 || b == 58 || b > 59 && b < 64 || b > 126) {
-                PaneMultiplexer x = typed(8, 4, "abc~[2;3r~[2;2H~[1;3");
+                PaneMultiplexer x = typed(8, 4, "abcdefgh".repeat(3) + "abc~[2;3r~[2;2H~[1;3");
                 String screen = Expect.screen(x, 0);
                 x.feed(0, b);
                 Expect.same("parser after " + b, Expect.parser(x, 0), "0,1,3,1");
@@ -423,7 +423,7 @@ public final class ParserEdgeTest {
         Expect.sentence("Parser: Any other final: no effect.");
         for (int b = 64; b <= 126; b++) {
             if ("ABCDHJKSr".indexOf(b) < 0) {
-                PaneMultiplexer x = typed(8, 4, "abc~[2;3r~[2;2H~[1;3");
+                PaneMultiplexer x = typed(8, 4, "abcdefgh".repeat(3) + "abc~[2;3r~[2;2H~[1;3");
                 String screen = Expect.screen(x, 0);
                 x.feed(0, b);
                 Expect.same("cursor after " + b, Expect.cursor(x, 0), "1,1");
@@ -489,9 +489,9 @@ public final class ParserEdgeTest {
             Expect.same("in " + regions[i], column(x), due[i]);
         }
         PaneMultiplexer wide = new PaneMultiplexer(24, 12);
-        Expect.type(wide, 0, "x".repeat(287) + "~[S");
+        Expect.type(wide, 0, "x".repeat(287) + "~[1;2r~[12;24Hx~[r~[S");
         Expect.same("the greatest screen, to its last column", Expect.screen(wide, 0),
-            ("x".repeat(24) + "/").repeat(10) + "x".repeat(23) + "./" + ".".repeat(24));
+            ("x".repeat(24) + "/").repeat(11) + ".".repeat(24));
     }
 
     private static void scrollOfOneRow() {

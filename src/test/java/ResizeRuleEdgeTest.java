@@ -189,10 +189,15 @@ public final class ResizeRuleEdgeTest {
         Expect.type(x, 0, "abcdefghijkl~[2;3r~[2;4H~[5;6;");
         x.split(TB);
         Expect.same("two of four rows", Expect.pane(x, 1), "1 [0,2,8,2] 0,0 0,1 0,0,0,0 ......../........");
-        Expect.type(x, 1, "mnopqrstuv~[1;2r~[2;3H~[9;9;");
+        Expect.type(x, 1, "mnopqrstuv~[2;2H~[9;9;");
         x.close();
         x.split(LR);
         Expect.same("the id again", Expect.pane(x, 1),
+            "1 [4,0,4,4] 0,0 0,3 0,0,0,0 ..../..../..../....");
+        Expect.type(x, 1, "mnopqrstuv~[2;3r~[2;3H~[9;9;");
+        x.close();
+        x.split(LR);
+        Expect.same("once more", Expect.pane(x, 1),
             "1 [4,0,4,4] 0,0 0,3 0,0,0,0 ..../..../..../....");
         Expect.type(x, 1, "x~");
         x.focus(0);

@@ -136,6 +136,11 @@ public final class SplitEdgeTest {
         x.split(LR);
         Expect.same("5 of 11 columns inside", x.paneRect(1, PaneMultiplexer.RECT_W), 5);
         Expect.same("an inner split leaves the outer share", x.paneRect(0, PaneMultiplexer.RECT_W), 11);
+        PaneMultiplexer odd = new PaneMultiplexer(21, 11);
+        odd.split(LR);
+        Expect.same("10 of 20 columns", odd.paneRect(0, PaneMultiplexer.RECT_W), 10);
+        odd.split(TB);
+        Expect.same("5 of 10 rows", odd.paneRect(1, PaneMultiplexer.RECT_H), 5);
         PaneMultiplexer least = new PaneMultiplexer(8, 4);
         least.split(LR);
         least.focus(0);
@@ -200,7 +205,7 @@ public final class SplitEdgeTest {
         Expect.sentence("Promise 3: the new pane gets the fresh state described under Resize rule");
         PaneMultiplexer x = new PaneMultiplexer(8, 4);
         x.split(LR);
-        Expect.type(x, 1, "abcdefghijklmno~[1;2r~[2;2H~[9;9;");
+        Expect.type(x, 1, "abcdefghijklmno~[2;3r~[2;2H~[9;9;");
         x.close();
         x.split(TB);
         Expect.same("after an earlier life of the id", Expect.pane(x, 1),

@@ -17,6 +17,8 @@ public final class FeedTest {
         erasing();
         scrolling();
         scrollingTheGreatestScreen();
+        everyPaneAsTheGreatestScreen();
+        everyPaneScrollsAlone();
         regions();
         regionsInOneRow();
         unfocusedPanes();
@@ -274,6 +276,60 @@ public final class FeedTest {
         Expect.type(x, 0, "~[2;11r~[3S");
         Expect.same("in region", Expect.screen(x, 0), ("x".repeat(24) + "/").repeat(8)
             + (".".repeat(24) + "/").repeat(3) + ".".repeat(24));
+    }
+
+    /** Eight panes side by side, each as high as the host. */
+    private static PaneMultiplexer columns() {
+        PaneMultiplexer x = new PaneMultiplexer(24, 12);
+        for (int id : new int[] {0, 0, 1, 0, 2, 1, 3}) {
+            x.focus(id);
+            x.split(PaneMultiplexer.LEFT_RIGHT);
+        }
+        Expect.same("columns", x.paneCount(), 8);
+        return x;
+    }
+
+    private static void everyPaneAsTheGreatestScreen() {
+        String line = "x".repeat(24) + "/";
+        String blank = ".".repeat(24) + "/";
+        for (int id = 0; id < 8; id++) {
+            PaneMultiplexer x = columns();
+            for (int other = 0; other < 8; other++) {
+                if (other != id) {
+                    x.focus(other);
+                    x.close();
+                }
+            }
+            Expect.same("rectangle of " + id, Expect.rect(x, id), "0,0,24,12");
+            Expect.type(x, id, "x".repeat(24 * 12));
+            Expect.same("by the last char of " + id, Expect.screen(x, id) + "/", line.repeat(11) + blank);
+            Expect.type(x, id, "~[12;24H\n");
+            Expect.same("by a line feed in " + id, Expect.screen(x, id) + "/",
+                line.repeat(10) + blank.repeat(2));
+            Expect.type(x, id, "~[99S");
+            Expect.same("by sequence in " + id, Expect.screen(x, id) + "/", blank.repeat(12));
+        }
+    }
+
+    private static void everyPaneScrollsAlone() {
+        for (int id = 0; id < 8; id++) {
+            PaneMultiplexer x = columns();
+            for (int each = 0; each < 8; each++) {
+                int width = x.paneRect(each, PaneMultiplexer.RECT_W);
+                // The last cell is filled while the region is elsewhere, so that nothing scrolls.
+                Expect.type(x, each, String.valueOf(each).repeat(width * 12 - 1) + "~[1;2r~[12;99H" + each);
+                Expect.type(x, each, "~[r~[12;1H");
+            }
+            Expect.type(x, id, "\n");
+            for (int row = 0; row < 12; row++) {
+                for (int each = 0; each < 8; each++) {
+                    int due = each == id && row == 11 ? ' ' : '0' + each;
+                    int last = x.paneRect(each, PaneMultiplexer.RECT_W) - 1;
+                    Expect.same(each + " after a scroll of " + id, x.paneChar(each, row, 0), due);
+                    Expect.same(each + " after a scroll of " + id, x.paneChar(each, row, last), due);
+                }
+            }
+        }
     }
 
     private static void regions() {
